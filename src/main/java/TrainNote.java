@@ -120,14 +120,14 @@ public final class TrainNote {
         if (isNoSinger(singer) || isNoBar(bar)) {
             return BAD_NUMBER;
         }
-        return noteIn(choir, train, singer, bar);
+        return noteBehind(song.restsBefore[bar], choir, train, singer);
     }
 
     public int away(int singer, int bar) {
         if (isNoSinger(singer) || isNoBar(bar)) {
             return BAD_NUMBER;
         }
-        int note = noteIn(choir, train, singer, bar);
+        int note = noteBehind(song.restsBefore[bar], choir, train, singer);
         return note == NO_NOTE ? NO_NOTE : note - 1000;
     }
 
@@ -181,7 +181,7 @@ public final class TrainNote {
         if (isNoBar(bar) || isNoChoice(what)) {
             return BAD;
         }
-        int bits = fewestToHush(bar);
+        int bits = fewestToHush(song.restsBefore[bar]);
         return what == 0 ? Integer.bitCount(bits) : bits;
     }
 
@@ -388,7 +388,7 @@ public final class TrainNote {
         }
         int howMany = Math.min(sheet.size, choir.size);
         for (int i = 0; i < howMany; i++) {
-            sheet.put(i, noteIn(choir, train, i, bar));
+            sheet.put(i, noteBehind(song.restsBefore[bar], choir, train, i));
         }
         return howMany;
     }
@@ -421,7 +421,15 @@ public final class TrainNote {
         h = mix(h, whistle(9));
         h = mix(h, open(0));
         h = mix(h, open(1));
-        h = mixFirstBar(h);
+        h = mix(h, stand(0, NONE));
+        h = mix(h, stand(0, 0));
+        h = mix(h, hush(0, 0));
+        h = mix(h, hush(0, 1));
+        h = mix(h, drive(0, 0));
+        h = mix(h, drive(0, 1));
+        h = mix(h, herd(3, 5, 0, 0));
+        h = mix(h, herd(3, 5, 0, 1));
+        h = mix(h, times(7, 20, 0));
         h = mix(h, speeds(NONE));
         h = mix(h, speeds(0));
         h = mix(h, cows());
@@ -454,19 +462,6 @@ public final class TrainNote {
             }
         }
         return h;
-    }
-
-    private long mixFirstBar(long before) {
-        long h = before;
-        h = mix(h, stand(0, NONE));
-        h = mix(h, stand(0, 0));
-        h = mix(h, hush(0, 0));
-        h = mix(h, hush(0, 1));
-        h = mix(h, drive(0, 0));
-        h = mix(h, drive(0, 1));
-        h = mix(h, herd(3, 5, 0, 0));
-        h = mix(h, herd(3, 5, 0, 1));
-        return mix(h, times(7, 20, 0));
     }
 
     private static long mix(long h, long v) {
@@ -517,21 +512,20 @@ public final class TrainNote {
 
     // ---- notes of any choir by any train
 
-    private static int noteAtFirst(Choir c, Train t, int singer) {
+    private static int noteBehind(int rests, Choir c, Train t, int singer) {
         int source = c.source[singer];
-        return source == NONE ? NO_NOTE : t.pitchAt(c.place[source]) + c.error[singer];
-    }
-
-    private int noteIn(Choir c, Train t, int singer, int bar) {
-        int first = noteAtFirst(c, t, singer);
-        return first == NO_NOTE ? NO_NOTE : first - c.sinks[singer] * song.restsBefore[bar];
+        if (source == NONE) {
+            return NO_NOTE;
+        }
+        return t.pitchAt(c.place[source]) + c.error[singer] - c.sinks[singer] * rests;
     }
 
     private int spreadOf(Choir c, Train t, int bar) {
+        int rests = song.restsBefore[bar];
         int least = NO_NOTE;
         int greatest = NO_NOTE;
         for (int i = 0; i < c.size; i++) {
-            int note = noteIn(c, t, i, bar);
+            int note = noteBehind(rests, c, t, i);
             if (note != NO_NOTE) {
                 least = least == NO_NOTE ? note : Math.min(least, note);
                 greatest = Math.max(greatest, note);
@@ -545,10 +539,11 @@ public final class TrainNote {
     }
 
     private int flattestIn(int bar) {
+        int rests = song.restsBefore[bar];
         int flattest = NONE;
         int least = NO_NOTE;
         for (int i = 0; i < choir.size; i++) {
-            int note = noteIn(choir, train, i, bar);
+            int note = noteBehind(rests, choir, train, i);
             if (note != NO_NOTE && (flattest == NONE || note < least)) {
                 flattest = i;
                 least = note;
@@ -607,22 +602,22 @@ public final class TrainNote {
     }
 
     /** The fewest leave just those that lie within CLOSE above some note, so one try for each note is enough. */
-    private int fewestToHush(int bar) {
+    private int fewestToHush(int rests) {
         int best = NONE;
         for (int i = 0; i < choir.size; i++) {
-            int lowest = noteIn(choir, train, i, bar);
+            int lowest = noteBehind(rests, choir, train, i);
             if (lowest != NO_NOTE) {
-                int bits = outside(lowest, lowest + train.close, bar);
+                int bits = outside(lowest, lowest + train.close, rests);
                 best = best == NONE || isLesser(bits, best) ? bits : best;
             }
         }
         return best == NONE ? 0 : best;
     }
 
-    private int outside(int lowest, int highest, int bar) {
+    private int outside(int lowest, int highest, int rests) {
         int bits = 0;
         for (int i = 0; i < choir.size; i++) {
-            int note = noteIn(choir, train, i, bar);
+            int note = noteBehind(rests, choir, train, i);
             if (note != NO_NOTE && (note < lowest || note > highest)) {
                 bits |= 1 << i;
             }
@@ -641,7 +636,10 @@ public final class TrainNote {
         for (int k = 0; k < memory.size; k++) {
             int singer = memory.singer[k];
             int bar = memory.bar[k];
-            if (isNoSinger(singer) || isNoBar(bar) || noteIn(choir, t, singer, bar) != memory.note[k]) {
+            if (isNoSinger(singer) || isNoBar(bar)) {
+                return false;
+            }
+            if (noteBehind(song.restsBefore[bar], choir, t, singer) != memory.note[k]) {
                 return false;
             }
         }
@@ -669,7 +667,7 @@ public final class TrainNote {
         otherTrain.become(train);
         for (int k = 0; k < howMany; k++) {
             otherTrain.speed = fittingSpeeds[k];
-            int note = noteAtFirst(choir, otherTrain, singer);
+            int note = noteBehind(0, choir, otherTrain, singer);
             alike = k > 0 && note == last ? alike + 1 : 1;
             most = Math.max(most, alike);
             last = note;

@@ -460,6 +460,17 @@ public final class PromisesTest {
         // The sixth would close it, but stays.
         put(x, 0, "100h;100h;100h;100h;109h;000h");
         stands(x, 2, 19, 0, 1, 2, 3, 4);
+        // By 8 the whistle falls by 2 a place, as they sink: all are like, if they stand the other way round.
+        x.set(0, 8);
+        put(x, 0, "000h;102h;204h;306h;408h;400h");
+        stands(x, 2, 0, 4, 3, 2, 1, 0);
+        put(x, 0, "000h;102h;204h;306h;408h;300h");
+        stands(x, 2, 2, 4, 3, 2, 1, 0);
+        put(x, 0, "000h;102h;204h;306h");
+        stands(x, 2, 0, 3, 2, 1, 0);
+        put(x, 0, "000h;102h;204h");
+        stands(x, 2, 0, 2, 1, 0);
+        x.set(0, 40);
         // Two that only hear each other are silent, and one alone is apart by nothing.
         put(x, 0, "000h;380n;980n");
         stands(x, 0, 0, 2, 0, 1);
@@ -506,6 +517,16 @@ public final class PromisesTest {
         put(x, 0, "000h;900h");
         is(1, x.hush(0, 0));
         is(1, x.hush(0, 1));
+        put(x, 0, "000h;900h;900h;000h");
+        is(6, x.hush(0, 1));
+        put(x, 0, "900h;000h;900h;500h");
+        is(1, x.hush(0, 0));
+        is(2, x.hush(0, 1));
+        put(x, 0, "100h;000h;500h;900h");
+        x.set(3, 10);
+        is(12, x.hush(0, 1));
+        put(x, 0, "100h;900h;900h;000h");
+        is(6, x.hush(0, 1));
         // One that has the note from a hushed one sings on; silent ones need no hush.
         x.set(3, 0);
         put(x, 0, "000h;180n;280n;900n;900n");
@@ -539,6 +560,11 @@ public final class PromisesTest {
         is(0, x.drive(2, 1));
         is(40, x.count(6));
         is(14, x.chord(0, 0));
+        // Early by 2 it is half the speed, not cut, but up to the next.
+        x.set(1, 2);
+        is(11, x.drive(0, 0));
+        is(0, x.drive(0, 1));
+        x.set(1, 0);
         put(x, 0, "040h;100h");
         is(0, x.drive(0, 0));
         is(4, x.drive(0, 1));
@@ -636,6 +662,9 @@ public final class PromisesTest {
         x.forget();
         row(x, 3, 2, -1, 0, 0, 0, 0, 0);
         is(0, x.read(3));
+        row(x, 3, 2, 23, 7, 2000);
+        is(1, x.read(3));
+        is(1, x.forget());
         row(x, 3, 2, 0, 8, 0);
         is(0, x.read(3));
         row(x, 3, 2, 24, 0, 0);
@@ -1033,6 +1062,8 @@ public final class PromisesTest {
         put(x, 0, EIGHT);
         is(8, x.count(0));
         is(0, x.count(4));
+        put(x, 0, "500n");
+        is(1, x.count(4));
     }
 
     private static long mixed(long... told) {
@@ -1061,6 +1092,18 @@ public final class PromisesTest {
         x.get(0, 0, 0);
         is(1, x.count(8));
         is(mixed(told), x.digest());
+        // By 13, early by 2, they are 1007, 1007, 1006; by none or one cow they would be like.
+        x = of("000h;000h;260h", "s");
+        x.set(0, 13);
+        x.set(1, 2);
+        x.set(3, 0);
+        is(mixed(3, 1, 14, 1, 0, 0, 13, 0, -1, -1, 0, 0, 0, 1, 1, 0, 0, 0, 0, 1, 0, 0, 2, 6, 0, 1, 0, 0,
+            0, 1007, 1007, 1006, 1, 0, 2, 1007, 978, 0, 1, 1, 0, 1, 4, 11, 0, 1573, 2048, 0, 100, 0, 1023, 0),
+            x.digest());
+        // Where nobody sings it always closes.
+        x = of("", "s");
+        is(mixed(0, 1, 0, 1, 0, 0, 40, 0, -1, -1, 0, 0, 1, -1, 1040, 950, -1, 0, 0, -1, 0, 0, 0, 0, 1, 1, 20,
+            100, 0, 1023, -1), x.digest());
         // A rest at first is told as refused.
         x = of("000h", "r");
         is(mixed(1, 1, 4, 1, 0, 1, 40, 0, -1, -1, 0, 0, 0, 1, -1, 0, 1, 1040, 0, 0, 0, 1040, 950, -1, 0, 0, 0, 0, 0, 0,
