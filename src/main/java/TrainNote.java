@@ -557,7 +557,7 @@ public final class TrainNote {
     private int bestOrder(int bar, int movers) {
         int best = 0;
         int least = spreadWhenMoved(0, movers, bar);
-        for (int order = 1; order < FACTORIALS[movers]; order++) {
+        for (int order = 1; order < FACTORIALS[movers] && least > 0; order++) {
             int spread = spreadWhenMoved(order, movers, bar);
             if (spread < least) {
                 best = order;
