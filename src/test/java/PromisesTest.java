@@ -474,6 +474,9 @@ public final class PromisesTest {
         // Two that only hear each other are silent, and one alone is apart by nothing.
         put(x, 0, "000h;380n;980n");
         stands(x, 0, 0, 2, 0, 1);
+        put(x, 0, "000h;320n;900n");
+        is(1, x.chord(0, 0));
+        stands(x, 0, 0, 2, 0, 1);
         // One way and its mirror are like: the least row.
         put(x, 0, "000h;200h;000h");
         stands(x, 0, 20, 0, 1, 2);
