@@ -581,7 +581,7 @@ public final class TrainNote {
         int rest = order;
         int used = 0;
         for (int i = 0; i < movers; i++) {
-            int rows = FACTORIALS[movers - 1 - i];
+            int rows = Math.max(1, FACTORIALS[movers - 1 - i]);
             standing[i] = unusedAt(rest / rows, used, movers);
             used |= 1 << standing[i];
             rest %= rows;

@@ -67,6 +67,11 @@ abstract class Edges {
         sameBeside8(twin, asked);
     }
 
+    /** A question changes nothing either. */
+    final void onlyAsks(long want, Supplier<TrainNote> maker, ToLongFunction<TrainNote> call) {
+        refuses(want, maker, call);
+    }
+
     /** A FINDING is the answer -10 less its number, and changes count() 8 alone. */
     final void finds(int finding, Supplier<TrainNote> maker, ToLongFunction<TrainNote> call) {
         findsWith(-10 - finding, finding, maker, call);

@@ -158,8 +158,8 @@ public final class HearingEdgesTest extends Edges {
         is(8, x.count(7));
         is(0, x.read(3));
         is(8, x.count(7));
-        refuses(0, Edges::full, y -> y.read(0));
-        refuses(0, Edges::full, y -> y.read(3));
+        onlyAsks(0, Edges::full, y -> y.read(0));
+        onlyAsks(0, Edges::full, y -> y.read(3));
     }
 
     void promise20AddsToWhatWasHeard() {
@@ -281,8 +281,8 @@ public final class HearingEdgesTest extends Edges {
     }
 
     void promise21TheTrainIsAsItWas() {
-        refuses(rich().speeds(-1), Edges::rich, x -> x.speeds(-1));
-        refuses(33, Edges::rich, x -> x.speeds(0));
+        onlyAsks(rich().speeds(-1), Edges::rich, x -> x.speeds(-1));
+        onlyAsks(33, Edges::rich, x -> x.speeds(0));
     }
 
     void promise21RefusesAnyOtherI() {
@@ -337,7 +337,7 @@ public final class HearingEdgesTest extends Edges {
     }
 
     void promise22TheTrainIsAsItWas() {
-        refuses(4, Edges::rich, TrainNote::cows);
+        onlyAsks(4, Edges::rich, TrainNote::cows);
     }
 
     // ---- 23 ask
@@ -397,8 +397,18 @@ public final class HearingEdgesTest extends Edges {
         is(0, x.ask());
     }
 
+    void promise23OfTwoSpeedsOneThatTellsThemApart() {
+        // By 46 and by 47 it is 977 at PLACE 6, not the same at PLACES 2 and 1.
+        TrainNote x = hearing("600h;200h;100h", 0, 0, 977);
+        is(2, x.speeds(-1));
+        is(1, x.ask());
+        put(x, 0, "600h;400h;600n");
+        is(2, x.speeds(-1));
+        is(0, x.ask());
+    }
+
     void promise23NothingChangesByAsking() {
-        refuses(rich().ask(), Edges::rich, TrainNote::ask);
+        onlyAsks(rich().ask(), Edges::rich, TrainNote::ask);
     }
 
     // ---- 24 herd
@@ -505,7 +515,7 @@ public final class HearingEdgesTest extends Edges {
     }
 
     void promise24TheTrainIsAsItWas() {
-        refuses(rich().herd(3, 5, 0, 0), Edges::rich, x -> x.herd(3, 5, 0, 0));
+        onlyAsks(rich().herd(3, 5, 0, 0), Edges::rich, x -> x.herd(3, 5, 0, 0));
     }
 
     // ---- 25 times
@@ -617,6 +627,6 @@ public final class HearingEdgesTest extends Edges {
     }
 
     void promise25TheTrainIsAsItWas() {
-        refuses(rich().times(7, 20, 0), Edges::rich, x -> x.times(7, 20, 0));
+        onlyAsks(rich().times(7, 20, 0), Edges::rich, x -> x.times(7, 20, 0));
     }
 }

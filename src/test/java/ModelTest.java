@@ -2,7 +2,7 @@ import java.util.Random;
 
 /** Long runs of calls by fixed seeds, ordinary ones and wrong ones, against the plain model. */
 public final class ModelTest {
-    private static final int RUNS = 1500;
+    private static final int RUNS = 4000;
     private final Due due = new Due("ModelTest");
     private final Random random;
     private final TrainNote x = new TrainNote();

@@ -150,6 +150,19 @@ public final class NoteEdgesTest extends Edges {
         is(0, x.ear(2, 1));
     }
 
+    void promise10TheFirstAndTheLastOfEightMayTakeItAndGiveItOn() {
+        TrainNote x = choir("100n;300n;000h");
+        is(2, x.ear(0, 0));
+        is(1, x.ear(0, 1));
+        is(0, x.ear(1, 0));
+        is(2, x.ear(1, 1));
+        x = choir("900h;100h;100h;100h;100h;100h;600n;800n");
+        is(0, x.ear(7, 0));
+        is(1, x.ear(7, 1));
+        is(7, x.ear(6, 0));
+        is(2, x.ear(6, 1));
+    }
+
     void promise10RefusesSingersBeyond() {
         for (int what = 0; what < 2; what++) {
             int asked = what;

@@ -13,6 +13,7 @@ import java.util.Set;
 final class PlainModel {
     private static final int NONE = -1, BAD = -2, NOT = -3, FULL = -4;
     private final StringBuilder[] texts = {new StringBuilder(), new StringBuilder()};
+    private final String[] well = {"", ""};
     private final int[] train = {40, 0, 9, 10};
     private final List<int[]> heard = new ArrayList<>();
     private final Object[] sheets = new Object[4];
@@ -27,10 +28,8 @@ final class PlainModel {
 
     private List<One> singers() {
         List<One> all = new ArrayList<>();
-        String text = texts[0].toString();
-        if (!text.matches("([0-9]{3}[hn](;[0-9]{3}[hn]){0,7})?")) return all;
-        if (text.isEmpty()) return all;
-        for (String part : text.split(";")) {
+        if (well[0].isEmpty()) return all;
+        for (String part : well[0].split(";")) {
             One one = new One();
             one.place = part.charAt(0) - '0';
             one.ear = part.charAt(1) - '0';
@@ -42,7 +41,15 @@ final class PlainModel {
     }
 
     private String song() {
-        return texts[1].toString().matches("[sre]*") ? texts[1].toString() : "";
+        return well[1];
+    }
+
+    /** Once for each change, as looking for a pattern is dear. */
+    private int changed(int text) {
+        String pattern = text == 0 ? "([0-9]{3}[hn](;[0-9]{3}[hn]){0,7})?" : "[sre]*";
+        String now = texts[text].toString();
+        well[text] = now.matches(pattern) ? now : "";
+        return now.length();
     }
 
     int fault(int text) {
@@ -64,13 +71,14 @@ final class PlainModel {
         if (text < 0 || text > 1 || b < 0 || b > 255) return BAD;
         if (texts[text].length() == (text == 0 ? 39 : 24)) return FULL;
         texts[text].append((char) b);
-        return texts[text].length();
+        return changed(text);
     }
 
     int wipe(int text) {
         if (text < 0 || text > 1) return BAD;
         int had = texts[text].length();
         texts[text].setLength(0);
+        changed(text);
         return had;
     }
 
@@ -78,7 +86,7 @@ final class PlainModel {
         if (text < 0 || text > 1) return BAD;
         if (texts[text].length() == 0) return NOT;
         texts[text].setLength(texts[text].length() - 1);
-        return texts[text].length();
+        return changed(text);
     }
 
     int singer(int singer, int what) {
@@ -343,13 +351,15 @@ final class PlainModel {
         if (n < 0 || n > 9 || c < 0 || c > 16 || noBar(bar) || song().charAt(bar) == 'r' || what < 0 || what > 1) {
             return Long.MIN_VALUE + 2;
         }
+        boolean[] closesBy = new boolean[n + 1];
+        for (int early = 0; early <= n; early++) closesBy[early] = closing(bar, with(1, early));
         BigInteger above = BigInteger.ZERO;
         for (int there = 0; there < 1 << n; there++) {
             BigInteger way = BigInteger.ONE;
             for (int cow = 0; cow < n; cow++) {
                 way = way.multiply(BigInteger.valueOf((there >> cow & 1) == 1 ? c : 16 - c));
             }
-            if (closing(bar, with(1, Integer.bitCount(there)))) above = above.add(way);
+            if (closesBy[Integer.bitCount(there)]) above = above.add(way);
         }
         BigInteger below = BigInteger.valueOf(16).pow(n);
         BigInteger by = above.gcd(below);

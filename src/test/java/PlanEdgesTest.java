@@ -80,8 +80,8 @@ public final class PlanEdgesTest extends Edges {
     }
 
     void promise15NobodyIsMovedByAsking() {
-        refuses(rich().stand(2, -1), Edges::rich, x -> x.stand(2, -1));
-        refuses(4, () -> slow("000h;102h;204h;306h;408h", "rs"), x -> x.stand(1, 0));
+        onlyAsks(rich().stand(2, -1), Edges::rich, x -> x.stand(2, -1));
+        onlyAsks(4, () -> slow("000h;102h;204h;306h;408h", "rs"), x -> x.stand(1, 0));
     }
 
     void promise15RefusesBarsThatThereAreNot() {
@@ -158,6 +158,11 @@ public final class PlanEdgesTest extends Edges {
         hushes(of("000h;400h;200h;100h", "s"), 0, 2, 3);
     }
 
+    void promise16TheFirstOrTheLastMayBeTheFlattestThatSings() {
+        hushes(of("900h;800h;000h", "s"), 0, 1, 4);
+        hushes(of("000h;800h;900h", "s"), 0, 1, 1);
+    }
+
     void promise16SilentOnesAreNotHushed() {
         hushes(of("900n;900n", "s"), 0, 0, 0);
         hushes(of("900n;900n;000h;200h", "s"), 0, 1, 4);
@@ -178,7 +183,7 @@ public final class PlanEdgesTest extends Edges {
     }
 
     void promise16NobodyIsHushedByAsking() {
-        refuses(rich().hush(2, 1), Edges::rich, x -> x.hush(2, 1));
+        onlyAsks(rich().hush(2, 1), Edges::rich, x -> x.hush(2, 1));
     }
 
     void promise16RefusesBarsThatThereAreNot() {
@@ -252,7 +257,7 @@ public final class PlanEdgesTest extends Edges {
     }
 
     void promise17TheTrainIsAsItWas() {
-        refuses(rich().drive(2, 0), Edges::rich, x -> x.drive(2, 0));
+        onlyAsks(rich().drive(2, 0), Edges::rich, x -> x.drive(2, 0));
     }
 
     void promise17RefusesBarsThatThereAreNot() {

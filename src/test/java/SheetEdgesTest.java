@@ -667,6 +667,13 @@ public final class SheetEdgesTest extends Edges {
         is(mixed(listed(of("", LONG_SONG))), of("", LONG_SONG).digest());
     }
 
+    void promise33TheHerdIsOfThreeCowsByFiveSixteenths() {
+        TrainNote x = train(of("000h;300h", "s"), 1, 0, 9, 0);
+        is(1331, x.herd(3, 5, 0, 0));
+        is(4096, x.herd(3, 5, 0, 1));
+        is(mixed(listed(x)), x.digest());
+    }
+
     void promise33FaultsAreToldAndTheRestIsAsOfNothing() {
         is(mixed(list(0, 0, 5, 2, 0, 0, 40, 0, 5, 1, 1040, 950, -1, 0, -2, -2, -2, -2, -2, -2, BAD_LONG, BAD_LONG,
             -2, 100, 0, 1023, -1)), of("000h;", "sx").digest());
@@ -688,8 +695,8 @@ public final class SheetEdgesTest extends Edges {
     }
 
     void promise33NothingChangesByIt() {
-        refuses(rich().digest(), Edges::rich, TrainNote::digest);
-        refuses(full().digest(), Edges::full, TrainNote::digest);
+        onlyAsks(rich().digest(), Edges::rich, TrainNote::digest);
+        onlyAsks(full().digest(), Edges::full, TrainNote::digest);
         TrainNote x = full();
         long first = x.digest();
         is(first, x.digest());

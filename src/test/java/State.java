@@ -1,7 +1,7 @@
 import java.util.ArrayList;
 import java.util.List;
 
-/** All that an object answers of itself but count() 8, some 350 calls; it is used up by telling it. */
+/** All that an object answers of itself but count() 8, some 300 calls; it is used up by telling it. */
 final class State {
     private static final int[] ITEMS = {0, 1, 2, 3, 4, 5, 6, 59};
     private final List<Long> told = new ArrayList<>();

@@ -67,6 +67,18 @@ public final class TextEdgesTest extends Edges {
         is(0, new TrainNote().count(8));
     }
 
+    void promise1AnObjectIsGoodFor512Calls() {
+        TrainNote x = of(EIGHT, LONG_SONG);
+        int calls = 2 + 39 + 24;
+        while (calls < 511) {
+            x.type(0, 'x');
+            x.lose(3);
+            calls += 2;
+        }
+        is(511, calls);
+        is(of(EIGHT, LONG_SONG).digest(), x.digest());
+    }
+
     // ---- 2 type
 
     void promise2TakesBytes0To255() {
