@@ -83,7 +83,19 @@ public final class FaceTest {
             DUE.that(c.getName() + " is not public", !Modifier.isPublic(c.getModifiers())
                 && !Modifier.isProtected(c.getModifiers()));
             DUE.that(c.getName() + " has at most twenty fields", c.getDeclaredFields().length <= 20);
+            for (Method m : c.getDeclaredMethods()) {
+                DUE.that(c.getName() + "." + m.getName() + " has a name of its own", !isOfFace(m.getName()));
+            }
         }
+    }
+
+    private static boolean isOfFace(String name) {
+        for (String told : FACE) {
+            if (told.contains(" " + name + "(")) {
+                return true;
+            }
+        }
+        return false;
     }
 
     /** The source without comments, texts and signs. */
